@@ -563,6 +563,7 @@ public final class MadeTown {
         final int[] codeFrom = new int[MOST_KINDS];
         final int[] codeTo = new int[MOST_KINDS];
         int codeSize;
+        boolean counts;
         final int[] operation = new int[MOST_TOKENS];
         final int[] left = new int[MOST_TOKENS];
         final int[] right = new int[MOST_TOKENS];
@@ -571,6 +572,7 @@ public final class MadeTown {
             settingCount = 0;
             kindCount = 0;
             codeSize = 0;
+            counts = false;
         }
 
         boolean hasSetting(int i) {
@@ -621,9 +623,10 @@ public final class MadeTown {
                 right[codeSize] = b;
                 codeSize++;
             }
+            counts = counts || what == HERE || what == SUM || what == ALL;
         }
 
-        /** What of a stretch of code is one of two kinds of jump goes on at a target. */
+        /** The operations of one sort in a stretch of code go on at a target. */
         private void aim(int least, int most, int from, int to, int target) {
             for (int i = Math.max(from, 0); i < to && i < codeSize; i++) {
                 if (operation[i] >= least && operation[i] <= most) {
@@ -1206,7 +1209,7 @@ public final class MadeTown {
             this.wishes = wishes;
         }
 
-        /** Counts once a TICK what 'here', 'all' and 'sum' tell. */
+        /** Counts once a TICK what 'here', 'all' and 'sum' tell; a WORLD without these needs no count. */
         void look(Run run) {
             int kindCount = Math.min(town.world.kindCount, MOST_KINDS);
             for (int i = 0; i < PLACES; i++) {
@@ -1421,7 +1424,9 @@ public final class MadeTown {
 
         /** Does one TICK, in which the WISHES of the ONE left out are chosen but not done. */
         void step(int leftOut) {
-            chooser.look(this);
+            if (town.world.counts) {
+                chooser.look(this);
+            }
             for (int i = 0; i < town.size; i++) {
                 if (gone[i]) {
                     wishes.size[i] = 0;

@@ -63,14 +63,10 @@ final class Due {
         return town;
     }
 
-    /** The first words of a text behind a mark '@' tell where it is: the text without it. */
-    static String unmarked(String marked) {
-        return marked.replace("@", "");
-    }
-
+    /** A text's FAULT is at the mark '@', which is no part of the text. */
     void fault(int number, String marked) {
         MadeTown town = new MadeTown();
-        String text = unmarked(marked);
+        String text = marked.replace("@", "");
         int at = marked.indexOf('@');
         String shown = marked.length() > 120 ? marked.substring(0, 120) + " .." : marked;
         is("read of \"" + shown + "\"", read(town, text), number);
