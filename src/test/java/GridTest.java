@@ -61,6 +61,11 @@ public final class GridTest {
         DUE.is("all meet", t.meets(1), 200);
         DUE.is("the last number of the first SPAN", t.met(1, 199, 0), -9999 + 199 * 100);
         DUE.is("the number of the third", t.met(1, 199, 2), -9999);
+        DUE.is("no 201st", t.met(1, 200, 0), -1000000);
+        DUE.is("all untold", t.untold(1), 7);
+        DUE.is("the least of 200", t.would(1, 2, 1, 1, 0, 0, 0), -9999);
+        DUE.is("the most of 200", t.would(1, 2, 1, 1, 0, 0, 1), 9999);
+        DUE.is("more at some of 200", t.would(1, 2, 1, 1, 0, 0, 2), moreOf200());
         MadeTown u = two();
         DUE.is("100 points", u.span(0, 0, 99, 1), 100);
         DUE.is("300 are too many", u.span(1, 0, 2, 1), -1);
@@ -71,6 +76,18 @@ public final class GridTest {
         DUE.is("rest of a STEP", two().span(0, 0, 8, 3), 3);
         DUE.is("rest of a STEP", two().span(0, 0, 9, 3), 4);
         DUE.is("a STEP too far", two().span(0, 0, 8, 9), 1);
+    }
+
+    private static int held(int x) {
+        return Math.max(-9999, Math.min(9999, x));
+    }
+
+    private static int moreOf200() {
+        int more = 0;
+        for (int a = -9999; a <= 9999; a += 100) {
+            more += held(a * 10 + 5 + 100) > held(a * 10 + 5) ? 1 : 0;
+        }
+        return more;
     }
 
     private static void turns() {

@@ -209,6 +209,7 @@ public final class TapeTest {
         DUE.fault(4, "kind a rule give @x 1 to near a; end end");
         DUE.fault(4, "kind a has x = 1; rule give x 1 to near @b; end end");
         DUE.fault(4, "kind a has x = 1; rule give x 1 to near @b; end end kind b has y = 1; end");
+        DUE.fault(4, "kind a end kind b has x = 1; rule give x 1 to pick @a; end end");
         DUE.fault(0, "kind a has x = 1; rule give x 1 to near b; end end kind b secret y = 1; secret x = 1; end");
         DUE.fault(5, "kind a rule go lot @0; end end");
         DUE.fault(5, "kind a rule go lot @0000; end end");
