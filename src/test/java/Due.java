@@ -1,4 +1,6 @@
 import java.util.NoSuchElementException;
+import java.util.function.Supplier;
+import java.util.function.ToLongFunction;
 
 /** Counts the answers that are not due, and helps to tell texts to a MadeTown. */
 final class Due {
@@ -25,6 +27,19 @@ final class Due {
             thrown = true;
         }
         is(call + " throws", thrown, true);
+    }
+
+    /** A call that is refused answers what is due and leaves all as it was: a twin that was never asked tells the same. */
+    void refused(String call, Supplier<MadeTown> made, ToLongFunction<MadeTown> asked, long want) {
+        MadeTown town = made.get();
+        is(call, asked.applyAsLong(town), want);
+        String left = Whole.told(town);
+        String twin = Whole.told(made.get());
+        boolean alike = left.equals(twin);
+        is(call + " leaves all as it was", alike, true);
+        if (!alike) {
+            System.out.println(left + "\n-- and the twin:\n" + twin);
+        }
     }
 
     /** Ends the test: exit code 1 if an answer was wrong, or none was asked. */
@@ -61,6 +76,27 @@ final class Due {
             throw new IllegalStateException("fault " + fault + " at " + town.place() + " in: " + text);
         }
         return town;
+    }
+
+    /**
+     * Reads a WORLD of two ONES who give one another all they have. ONE 0 has 4: by numbers they come back to it within a
+     * TICK, but if ONE 1 comes first, it has nothing to give yet.
+     */
+    static MadeTown giveAndTake(MadeTown town) {
+        read(town, "kind a has x = 0; rule give x 9 to near b; end end kind b has x = 0; rule give x 9 to near a; end end");
+        town.one(0, 0, 1);
+        town.one(1, 0, 1);
+        town.begin(0, 0, 4);
+        return town;
+    }
+
+    /** The first SEED by which ONE 1 comes ahead of ONE 0 in TICK 0, if THE ORDER is dealt. */
+    static int seedOfOneFirst(MadeTown town) {
+        int seed = 0;
+        while (town.lot(seed, 0, 0, 1000, 1000) <= town.lot(seed, 1, 0, 1000, 1000)) {
+            seed++;
+        }
+        return seed;
     }
 
     /** A text's FAULT is at the mark '@', which is no part of the text. */

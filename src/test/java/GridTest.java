@@ -156,10 +156,7 @@ public final class GridTest {
         DUE.is("span", t.met(3, 0, 1), 0);
         t.seen(1, 0, 0, 31, 32);
         DUE.is("seen", t.meets(3), 0);
-        MadeTown o = Due.town("kind a has x = 0; rule give x 9 to near b; end end kind b has x = 0; rule give x 9 to near a; end end");
-        o.one(0, 0, 1);
-        o.one(1, 0, 1);
-        o.begin(0, 0, 4);
+        MadeTown o = Due.giveAndTake(new MadeTown());
         o.seen(1, 0, 0, 4, 4);
         DUE.is("by numbers", o.meets(3), 1);
         o.order(true);

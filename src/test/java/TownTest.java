@@ -116,12 +116,7 @@ public final class TownTest {
 
     /** Whoever comes first takes what there is: give moves what the giver has now. */
     private static void order() {
-        MadeTown t = Due.town("kind a has x = 0; rule give x 9 to near b; end end "
-                + "kind b has x = 0; rule give x 9 to near a; end end");
-        t.one(0, 0, 1);
-        t.one(1, 0, 1);
-        t.begin(0, 0, 4);
-        // By numbers: 0 gives 4 to 1, who gives 4 back. The other way round 1 has nothing to give.
+        MadeTown t = Due.giveAndTake(new MadeTown());
         DUE.is("by numbers", t.state(0, 1, 0, 0), 4);
         t.order(true);
         int firsts = 0;
@@ -132,14 +127,8 @@ public final class TownTest {
         }
         DUE.is("both orders are dealt", firsts > 0 && firsts < 40, true);
         // THE ORDER stays as it is when another text is read.
-        Due.read(t, "kind a has x = 0; rule give x 9 to near b; end end kind b has x = 0; rule give x 9 to near a; end end");
-        t.one(0, 0, 1);
-        t.one(1, 0, 1);
-        t.begin(0, 0, 4);
-        int seed = 0;
-        while (t.lot(seed, 0, 0, 1000, 1000) <= t.lot(seed, 1, 0, 1000, 1000)) {
-            seed++;
-        }
+        Due.giveAndTake(t);
+        int seed = Due.seedOfOneFirst(t);
         DUE.is("dealt still", t.state(seed, 1, 0, 0), 0);
         t.order(false);
         DUE.is("by numbers again", t.state(seed, 1, 0, 0), 4);
