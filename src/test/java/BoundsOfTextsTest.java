@@ -16,6 +16,7 @@ public final class BoundsOfTextsTest {
         numbersThatInts();
         longestTokens();
         everyTokenAtTheBeginning();
+        everyTokenEverywhere();
         emptyParts();
         syntaxAtTheEnd();
         tokens501();
@@ -35,6 +36,7 @@ public final class BoundsOfTextsTest {
         othersFirstByTheirPlace();
         aFaultChangesNothing();
         aTextIsTheWorld();
+        bytesTakenBack();
         manyReads();
         countedFromNothing();
         longConditions();
@@ -250,6 +252,62 @@ public final class BoundsOfTextsTest {
         }
         DUE.fault(1, "@a");
         DUE.fault(1, "@7");
+    }
+
+    /**
+     * "a TOKEN, or what is none, with which no text goes on": behind each start all TOKENS are tried. The ones told with it
+     * go on, so that what is no TOKEN behind them is the FAULT; no other one does.
+     */
+    private static void everyTokenEverywhere() {
+        String unit = " INT NAME ( tick here place lot sum all";
+        String joints = " + - * /";
+        String tests = " == != < <=";
+        String wishes = " add go give quit";
+        String rule = "kind k has x = 1; rule ";
+        String[][] starts = {
+            {"", "set kind"}, {"set", "NAME"}, {"set a", "="}, {"set a =", "INT"}, {"set a = 1", ";"}, {"set a = 1;", "set kind"},
+            {"kind", "NAME"}, {"kind k", "has secret rule end"}, {"kind k end", "kind"}, {"set a = 1; kind k end", "kind"},
+            {"kind k has", "NAME"}, {"kind k secret", "NAME"}, {"kind k has x", "="}, {"kind k secret x", "="},
+            {"kind k has x =", "- INT"}, {"kind k secret x =", "- INT"}, {"kind k has x = -", "INT"}, {"kind k has x = 1", ";"},
+            {"kind k has x = - 1", ";"}, {"kind k has x = 1;", "has secret rule end"}, {"kind k secret x = 1;", "has secret rule end"},
+            {rule, "if end" + wishes}, {rule + "end", "rule end"}, {rule + "if", "not" + unit}, {rule + "if not", "not" + unit},
+            {rule + "if not not", "not" + unit}, {rule + "if 1", tests + joints}, {rule + "if not 1", tests + joints},
+            {rule + "if (", unit}, {rule + "if (1", ")" + joints}, {rule + "if (1 + 2", ")" + joints}, {rule + "if (1)", tests + joints},
+            {rule + "if ((1)", ")" + joints}, {rule + "if 1 + 2", tests + joints}, {rule + "if 1 ==", unit}, {rule + "if 1 !=", unit},
+            {rule + "if 1 <", unit}, {rule + "if 1 <=", unit}, {rule + "if 1 == 2", "and or end" + joints + wishes},
+            {rule + "if 1 <= (2", ")" + joints}, {rule + "if 1 <= (2)", "and or end" + joints + wishes},
+            {rule + "if 1 == 2 and", "not" + unit}, {rule + "if 1 == 2 or", "not" + unit}, {rule + "if 1 == 2 and 3", tests + joints},
+            {rule + "if 1 == 2 or not 3 < 4", "and or end" + joints + wishes}, {rule + "if 1 == 2 quit;", "end" + wishes},
+            {rule + "add", "NAME"}, {rule + "add x", unit}, {rule + "add x 1", ";" + joints}, {rule + "add x 1;", "end" + wishes},
+            {rule + "go", unit}, {rule + "go 1", ";" + joints}, {rule + "go x", ";" + joints}, {rule + "go 1 +", unit}, {rule + "go 1 -", unit},
+            {rule + "go 1 *", unit}, {rule + "go 1 /", unit}, {rule + "go (", unit}, {rule + "go (1", ")" + joints},
+            {rule + "go (1)", ";" + joints}, {rule + "go (1) * (2", ")" + joints}, {rule + "go 1;", "end" + wishes},
+            {rule + "go tick", ";" + joints}, {rule + "go here", ";" + joints}, {rule + "go place", ";" + joints}, {rule + "go lot", "INT"},
+            {rule + "go lot 2", ";" + joints}, {rule + "go sum", "NAME"}, {rule + "go sum k", "NAME"}, {rule + "go sum k x", ";" + joints},
+            {rule + "go all", "NAME"}, {rule + "go all k", ";" + joints}, {rule + "give", "NAME"}, {rule + "give x", unit},
+            {rule + "give x 1", "to" + joints}, {rule + "give x (1", ")" + joints}, {rule + "give x 1 to", "near pick"},
+            {rule + "give x 1 to near", "NAME"}, {rule + "give x 1 to pick", "NAME"}, {rule + "give x 1 to near k", ";"},
+            {rule + "give x 1 to pick k;", "end" + wishes}, {rule + "quit", ";"}, {rule + "quit;", "end" + wishes},
+        };
+        for (String[] start : starts) {
+            String allowed = " " + start[1] + " ";
+            String begun = start[0].isEmpty() ? "" : start[0] + " ";
+            for (String word : WORDS) {
+                goesOn(begun, word, allowed.contains(" " + word + " "));
+            }
+            for (String sign : SIGNS) {
+                goesOn(begun, sign, allowed.contains(" " + sign + " "));
+            }
+            goesOn(begun, "x", allowed.contains(" NAME "));
+            goesOn(begun, "7", allowed.contains(" INT "));
+            for (String none : new String[] {"!", ">", "X", "ninechars", "12345", "\u00e4"}) {
+                goesOn(begun, none, false);
+            }
+        }
+    }
+
+    private static void goesOn(String begun, String token, boolean may) {
+        DUE.fault(1, begun + (may ? token + " @!" : "@" + token));
     }
 
     /** What may be told any number of times may be told never. */
@@ -652,6 +710,35 @@ public final class BoundsOfTextsTest {
         DUE.is("that does nothing", t.state(0, 9, 0, 0), 1);
     }
 
+    /** Bytes that have been taken back are no part of the text, though they would make its last TOKEN a longer one. */
+    private static void bytesTakenBack() {
+        String[][] texts = {{"set a =", "="}, {"set a", "b"}, {"set a = 1", "2"}, {"set a = 1;", "x"}, {"kind k", "ind"}, {"kind k en", "d"},
+            {"kind k rule if 1 <", "="}, {"set abcdefgh", "i"}, {"set a = 1234", "5"}, {"", "set"}, {"set a = 1; !", "="}};
+        for (String[] n : texts) {
+            MadeTown t = new MadeTown();
+            Due.feed(t, n[0] + n[1]);
+            t.back(n[1].length());
+            MadeTown twin = new MadeTown();
+            Due.feed(twin, n[0]);
+            DUE.is("read of " + n[0] + " without " + n[1], t.read(), twin.read());
+            DUE.is("its place", t.place(), twin.place());
+        }
+        MadeTown t = new MadeTown();
+        Due.feed(t, "set a ==");
+        DUE.is("back", t.back(1), 7);
+        DUE.is("read", t.read(), 1);
+        DUE.is("the text's end", t.place(), 7);
+        // Bytes of a text that was read before are gone, too.
+        Due.read(t, "kind k rule if 1 <=   ");
+        Due.read(t, "kind k rule if 1 <");
+        DUE.is("behind a longer text", t.place(), 18);
+        Due.read(t, "set a ==");
+        Due.feed(t, "set a =");
+        DUE.is("count 6", t.count(6), 7);
+        DUE.is("read", t.read(), 1);
+        DUE.is("the text's end", t.place(), 7);
+    }
+
     /** However often texts are read, with FAULTS or without, each is read as if it were the first. */
     private static void manyReads() {
         MadeTown t = new MadeTown();
@@ -670,6 +757,15 @@ public final class BoundsOfTextsTest {
             DUE.is("are forgotten " + i, Due.read(t, "kind k rule go 1)"), 1);
             DUE.is("their place " + i, t.place(), 16);
             DUE.is("THE WORLD is the large one still " + i, t.at(0, 1, 0), 8);
+        }
+        for (int faults = 0; faults < 10; faults++) {
+            t = new MadeTown();
+            for (int i = 0; i < faults; i++) {
+                DUE.is("many brackets left open", Due.read(t, "kind k rule if 1 < 2 + 3 * ((((((4 - 5 * "), 1);
+            }
+            DUE.is("then a good text", Due.read(t, "kind k rule go 1 + 2 * (3 + 4 * (5 + 6 * 7)); end end"), 0);
+            t.one(0, 0, 1);
+            DUE.is("is worked out as the first one", t.at(0, 1, 0), (1 + 2 * (3 + 4 * (5 + 6 * 7))) % 10);
         }
     }
 
