@@ -8,6 +8,7 @@ public final class BoundsOfTicksTest {
 
     public static void main(String[] args) {
         varsBeginAsTold();
+        namesInAnE();
         aheadOfTheTick();
         ruleByRule();
         adds();
@@ -76,6 +77,26 @@ public final class BoundsOfTicksTest {
         t.begin(1, 5, -42);
         DUE.is("begin of the last VAR", t.state(0, 1, 1, 5), -42);
         DUE.is("FIGURE of the last VAR", t.figure(0, 1, 0, 5), -42 * 99 + 42);
+    }
+
+    /** "A NAME in an E is a VAR of the KIND of the RULE, else a SETTING" - whatever else bears that NAME. */
+    private static void namesInAnE() {
+        MadeTown t = Due.town("set x = 5; set y = 11; set w = 300; kind k has x = 7; has k = 0; has l = 40; rule add k x + y + w; add l sum k k "
+                + "+ sum l x; end end kind l has y = 2; secret w = 0; has x = 0; rule add x y; add w x + w; end end "
+                + "kind m has a = 0; rule add a x + y + w; end end");
+        t.one(0, 0, 1);
+        t.one(1, 0, 1);
+        t.one(2, 0, 1);
+        t.begin(1, 2, 900);
+        DUE.is("its own x, the SETTINGS y and w", t.state(0, 1, 0, 1), 7 + 11 + 300);
+        DUE.is("a VAR k of the KIND k, an x of the KIND l", t.state(0, 1, 0, 2), 40 + 0 + 900);
+        DUE.is("its own y", t.state(0, 1, 1, 2), 902);
+        DUE.is("its own x and w", t.state(0, 1, 1, 1), 900);
+        DUE.is("SETTINGS alone", t.state(0, 1, 2, 0), 316);
+        t.set(0, 6);
+        t.set(2, -1);
+        DUE.is("SETTINGS alone, set anew", t.state(0, 1, 2, 0), 16);
+        DUE.is("its own x as it was", t.state(0, 1, 0, 1), 7 + 11 - 1);
     }
 
     /** "E's worked out by what all were ahead of the TICK", though ONES ahead of it have done their WISHES. */
