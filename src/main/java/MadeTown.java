@@ -190,7 +190,7 @@ public final class MadeTown {
     }
 
     public int state(int seed, int t, int one, int var) {
-        if (!isTime(t) || !town.hasVar(one, var)) {
+        if (!isTime(t) || !town.oneHasVar(one, var)) {
             return NO_NUMBER;
         }
         run.goPlain(seed, t);
@@ -1118,7 +1118,7 @@ public final class MadeTown {
             return i >= 0 && i < size;
         }
 
-        boolean hasVar(int i, int var) {
+        boolean oneHasVar(int i, int var) {
             return hasOne(i) && world.hasVar(kinds[i], var);
         }
 
@@ -1148,7 +1148,7 @@ public final class MadeTown {
         }
 
         boolean putBegin(int i, int var, int v) {
-            if (!hasVar(i, var) || !isNumber(v)) {
+            if (!oneHasVar(i, var) || !isNumber(v)) {
                 return false;
             }
             begins[i * MOST_VARS + var] = v;
